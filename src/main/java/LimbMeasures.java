@@ -554,6 +554,7 @@ public final class LimbMeasures {
     /** Reads a text into a draft, so that a text with a FAULT leaves the port as it was. */
     private static final class Reader {
         private static final int NO_FAULT = 0, MISPLACED = 1, OUT_OF_BOUNDS = 2, TOO_MANY = 3, ALIKE = 4;
+        private static final int LEAST_TOLD_LENGTH = 20, MOST_TOLD_LENGTH = 99, MOST_OF_RATE = 20;
         private static final int BLANK = 32, MOST_FIGURES = 3, MOST_NUMBERS = 5, TOO_GREAT = 1000;
 
         private final Letters text = new Letters();
@@ -610,19 +611,19 @@ public final class LimbMeasures {
         }
 
         private boolean readLimb() {
-            boolean isRead = readNumber(0, 20, 99);
+            boolean isRead = readNumber(0, LEAST_TOLD_LENGTH, MOST_TOLD_LENGTH);
             for (int i = 1; i <= YEAR && isRead; i++) {
-                isRead = readNumber(i, 0, 18);
+                isRead = readNumber(i, 0, 2 * Port.TOLD_MORE);
             }
-            if (!isRead || !readClose()) {
-                return false;
+            isRead = isRead && readClose();
+            if (isRead) {
+                draft.addLimb(numbers);
             }
-            draft.addLimb(numbers);
-            return true;
+            return isRead;
         }
 
         private boolean readContract() {
-            boolean isRead = readNumber(0, 0, LAST_CONTRACT_SEASON) && readLimbNumber(1)
+            boolean isRead = readNumber(0, 0, LAST_CONTRACT_SEASON) && readNumber(1, 0, draft.limbs - 1)
                     && readNumber(2, 1, MOST_TIMES) && readClose();
             if (isRead) {
                 draft.addContract(numbers);
@@ -631,8 +632,8 @@ public final class LimbMeasures {
         }
 
         private boolean readRate() {
-            boolean isRead = readLimbNumber(0) && readUnlikeLimb() && readNumber(2, 1, 20)
-                    && readNumber(3, 1, 20) && readClose();
+            boolean isRead = readNumber(0, 0, draft.limbs - 1) && readNumber(1, 0, draft.limbs - 1) && isUnlike()
+                    && readNumber(2, 1, MOST_OF_RATE) && readNumber(3, 1, MOST_OF_RATE) && readClose();
             if (isRead) {
                 draft.addRate(numbers);
             }
@@ -640,27 +641,19 @@ public final class LimbMeasures {
         }
 
         private boolean readHeir() {
-            if (!readLimbNumber(0)) {
-                return false;
+            boolean isRead = readNumber(0, 0, draft.limbs - 1) && isWithoutHeir()
+                    && readNumber(1, 0, draft.limbs - 1) && isUnlike() && readClose();
+            if (isRead) {
+                draft.addHeir(numbers);
             }
-            if (draft.heir[numbers[0]] != NONE) {
-                return fail(ALIKE, numberPlace);
-            }
-            if (!readUnlikeLimb() || !readClose()) {
-                return false;
-            }
-            draft.addHeir(numbers);
-            return true;
+            return isRead;
         }
 
-        private boolean readLimbNumber(int i) {
-            return readNumber(i, 0, draft.limbs - 1);
+        private boolean isWithoutHeir() {
+            return draft.heir[numbers[0]] == NONE || fail(ALIKE, numberPlace);
         }
 
-        private boolean readUnlikeLimb() {
-            if (!readLimbNumber(1)) {
-                return false;
-            }
+        private boolean isUnlike() {
             return numbers[0] != numbers[1] || fail(ALIKE, numberPlace);
         }
 

@@ -80,6 +80,7 @@ public final class GotTest {
         due("all fit: this season", x.bale(), 0);
         x.season(1);
         due("all fit: three seasons ahead", x.bale(), 3);
+        due("two limbs", CHECK.toldBy("l30 9 9 9 9;l30 9 9 9 8;").bale(), 3);
         due("one limb", CHECK.toldBy("l30 9 9 9 9;").bale(), Check.NONE);
         due("never unlike", CHECK.toldBy("l30 9 8 7 6;l30 9 8 7 6;").bale(), Check.NONE);
         due("two unlike are not all", CHECK.toldBy("l30 9 9 9 9;l30 9 9 9 9;l50 9 9 9 9;").bale(), Check.NONE);

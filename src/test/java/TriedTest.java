@@ -87,7 +87,10 @@ public final class TriedTest {
         baskets("three limbs", CHECK.toldBy("l30 9 10 9 9;l30 9 9 10 9;l30 9 8 8 9;"), 3, 1, 1, 1);
         baskets("four limbs are too many", CHECK.toldBy("l30 9 10 9 9;l30 9 9 10 9;l30 9 9 9 10;l30 9 8 8 8;"),
                 -1, -1, -1, -1, -1);
-        baskets("twelve in all", CHECK.toldBy("l30 9 13 9 9;l30 9 9 13 9;l30 9 5 5 9;"), 3, 1, 1, 1);
+        baskets("eleven in all", CHECK.toldBy("l30 9 12 9 9;l30 9 9 12 9;l30 9 5 5 9;"), 11, 4, 4, 3);
+        baskets("six limbs", CHECK.toldBy("l30 0 1 0 0;l30 9 11 9 9;l30 0 0 1 0;l30 0 0 0 1;l30 0 3 0 5;l30 9 6 9 9;"),
+                3, 1, 1, 0, 0, 0, 1);
+        baskets("not by fours but by ones", CHECK.toldBy("l30 9 13 9 9;l30 9 9 13 9;l30 9 5 5 9;"), 3, 1, 1, 1);
         LimbMeasures y = CHECK.toldBy("l20 0 1 2 3;");
         for (int i = 0; i < 5; i++) {
             due("no level yet", y.basket(0), Check.NONE);
@@ -137,6 +140,8 @@ public final class TriedTest {
         rings("no rates", CHECK.toldBy(FOUR));
         rings("empty", new LimbMeasures());
         rings("four of the greatest", CHECK.toldBy(FOUR + "r0 1 19 20;r1 2 20 20;r2 3 20 20;r3 0 20 20;"), 0, 1, 2, 3);
+        rings("eight", CHECK.toldBy(FOUR + "r0 1 1 1;r1 2 1 1;r2 3 1 1;r3 0 1 1;r1 0 1 1;r2 0 1 1;r2 1 1 1;r3 2 1 2;"),
+                2, 7);
         LimbMeasures x = CHECK.toldBy(FOUR + "r0 1 1 2;r1 0 1 1;");
         x.dies(0);
         rings("whoever lives", x, 0, 1);
@@ -149,6 +154,7 @@ public final class TriedTest {
                 CHECK.toldBy(FOUR + "r0 1 1 1;r2 0 2 3;r1 2 3 3;").mended(), 1);
         due("1 at least", CHECK.toldBy(FOUR + "r0 1 1 1;r1 0 2 3;").mended(), 1);
         due("none does", CHECK.toldBy(FOUR + "r0 1 1 5;r1 0 1 5;").mended(), Check.NONE);
+        due("2 less is not tried", CHECK.toldBy(FOUR + "r0 1 1 3;r1 0 1 1;").mended(), Check.NONE);
         due("no row", CHECK.toldBy(FOUR + "r0 1 1 1;r1 0 1 1;").mended(), Check.NONE);
         due("no rates", CHECK.toldBy(FOUR).mended(), Check.NONE);
         due("empty", new LimbMeasures().mended(), Check.NONE);
